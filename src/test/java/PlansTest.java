@@ -34,6 +34,9 @@ final class PlansTest {
         Check.same("too much for the GATE", x.plan(26, 0), Scene.NONE);
         x.odds(0, 0);
         Check.same("ODDS that it has do not count", x.plan(5, 0), 2);
+        Lullabygate least = hiders(1);
+        Check.same("the least HIDDEN WORTH", least.plan(1, Scene.NONE), 10);
+        Check.same("nothing HIDDEN", hiders(0).plan(1, Scene.NONE), Scene.NONE);
     }
 
     private static void promise25SeveralGates() {
