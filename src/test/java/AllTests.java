@@ -14,8 +14,8 @@ public final class AllTests {
         AskedTest.run();
         RingsAndWaysTest.run();
         PlansTest.run();
-        SoundnessTest.run();
         DigestTest.run();
+        Edges.run();
         RandomRunsTest.run();
         System.out.println(Check.passed + " passed, " + Check.failed + " failed");
         if (Check.failed != 0) {

@@ -1,4 +1,5 @@
 import java.util.Objects;
+import java.util.function.IntConsumer;
 
 /** Counts what is as it is due and tells what is not. */
 final class Check {
@@ -35,6 +36,13 @@ final class Check {
     static boolean isThrownBy(Exception e, String className) {
         StackTraceElement[] trace = e.getStackTrace();
         return trace.length > 0 && trace[0].getClassName().equals(className);
+    }
+
+    /** The call refuses what is just below and just above that range, and what is far outside. */
+    static void outside(Lullabygate x, String what, int least, int most, Class<?> due, IntConsumer call) {
+        for (int wrong : new int[] {least - 1, most + 1, Integer.MIN_VALUE, Integer.MAX_VALUE}) {
+            refuses(x, what + " of " + wrong, due, () -> call.accept(wrong));
+        }
     }
 
     static void noSuch(Lullabygate x, String what, Runnable call) {

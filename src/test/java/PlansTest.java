@@ -11,20 +11,8 @@ final class PlansTest {
         promise25Refuses();
     }
 
-    /** GATES between the LANDS 0 and 1, each with one who hides that WORTH. */
-    private static Lullabygate hiders(int... worths) {
-        Lullabygate x = new Lullabygate();
-        for (int k = 0; k < worths.length; k++) {
-            x.gate(0, 1, k, 1);
-            x.sleeper(0, false, 9);
-            x.part(k, 0, worths[k], 0);
-            x.join(k, k, 0);
-        }
-        return x;
-    }
-
     private static void promise25OneGate() {
-        Lullabygate x = hiders(25);
+        Lullabygate x = Scene.hiders(25);
         int[][] cases = {{0, 0}, {1, 1}, {2, 1}, {3, 2}, {5, 2}, {6, 3}, {7, 3}, {8, 4}, {22, 9}, {23, 10}, {25, 10}};
         for (int[] c : cases) {
             Check.same("sum for " + c[0], x.plan(c[0], Scene.NONE), c[1]);
@@ -34,24 +22,24 @@ final class PlansTest {
         Check.same("too much for the GATE", x.plan(26, 0), Scene.NONE);
         x.odds(0, 0);
         Check.same("ODDS that it has do not count", x.plan(5, 0), 2);
-        Lullabygate least = hiders(1);
+        Lullabygate least = Scene.hiders(1);
         Check.same("the least HIDDEN WORTH", least.plan(1, Scene.NONE), 10);
-        Check.same("nothing HIDDEN", hiders(0).plan(1, Scene.NONE), Scene.NONE);
+        Check.same("nothing HIDDEN", Scene.hiders(0).plan(1, Scene.NONE), Scene.NONE);
     }
 
     private static void promise25SeveralGates() {
-        Lullabygate same = hiders(50, 50, 50);
+        Lullabygate same = Scene.hiders(50, 50, 50);
         Check.same("the sum", same.plan(60, Scene.NONE), 12);
         Check.same("the least at 0", same.plan(60, 0), 0);
         Check.same("then at 1", same.plan(60, 1), 2);
         Check.same("the rest at 2", same.plan(60, 2), 10);
-        Lullabygate floors = hiders(19, 15, 0, 9);
+        Lullabygate floors = Scene.hiders(19, 15, 0, 9);
         Check.same("what is divided is rounded down", floors.plan(4, Scene.NONE), 3);
         Check.same("all there", floors.plan(43, Scene.NONE), 30);
         Check.same("nothing is hidden at 2", floors.plan(43, 2), 0);
         Check.same("too much", floors.plan(44, Scene.NONE), Scene.NONE);
         Check.same("a PROMISE of 0", floors.plan(0, 3), 0);
-        Lullabygate declared = hiders(40);
+        Lullabygate declared = Scene.hiders(40);
         declared.sleeper(0, false, 9);
         declared.part(1, 0, 99, 0);
         declared.join(1, 0, 2);
@@ -62,7 +50,7 @@ final class PlansTest {
     private static void promise25AgainstAllPlans() {
         int[][] worths = {{7, 31, 12}, {99, 3, 98}, {11, 11, 11}, {0, 9, 29}, {33, 66, 99}, {19, 0, 19}};
         for (int[] w : worths) {
-            Lullabygate x = hiders(w);
+            Lullabygate x = Scene.hiders(w);
             for (int promise = 0; promise <= w[0] + w[1] + w[2] + 1; promise += 3) {
                 int[] best = bestOfAll(w, promise);
                 String what = w[0] + ", " + w[1] + ", " + w[2] + " for " + promise;
@@ -101,7 +89,7 @@ final class PlansTest {
         Check.same("the greatest PROMISE", x.plan(2000, Scene.NONE), 68);
         Check.same("at the first GATE", x.plan(2000, 0), 0);
         Check.same("at the last GATE", x.plan(2000, 7), 10);
-        Lullabygate y = hiders(9, 9, 9, 9, 9, 9, 9, 9);
+        Lullabygate y = Scene.hiders(9, 9, 9, 9, 9, 9, 9, 9);
         Check.same("all ODDS", y.plan(72, Scene.NONE), 80);
         Check.same("all ODDS of the first GATE", y.plan(72, 0), 10);
         Check.same("more than all ODDS", y.plan(73, Scene.NONE), Scene.NONE);

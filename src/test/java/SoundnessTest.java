@@ -8,14 +8,21 @@ final class SoundnessTest {
     }
 
     static void run() {
-        Check.same("sound", begun().isSound(), true);
-        breakQuota();
-        breakPatience();
-        breakLand();
-        breakQueues();
-        breakBabies();
-        breakHidings();
-        breakHeads();
+        Edges.of(27, "Returns whether all is SOUND", SoundnessTest::soundAsItIs);
+        Edges.of(27, "who stands in a QUEUE stands in just one", SoundnessTest::breakQueues);
+        Edges.of(27, "and is in one of both LANDS of that GATE", SoundnessTest::breakLand);
+        Edges.of(27, "BABIES are ahead of others in all QUEUES", SoundnessTest::breakBabies);
+        Edges.of(27, "QUOTAS are together 30", SoundnessTest::breakQuota);
+        Edges.of(27, "PATIENCE is 0 to 9", SoundnessTest::breakPatience);
+        Edges.of(27, "HIDINGS are 40 at most", SoundnessTest::breakHidings);
+        Edges.of(27, "no AWAKE one has a PART.", SoundnessTest::breakHeads);
+        Edges.of(28, "1 if isSound(), otherwise 0.", SoundnessTest::breakQuota);
+    }
+
+    private static void soundAsItIs() {
+        Check.same("a new object", new Lullabygate().isSound(), true);
+        Check.same("a full one", Scene.full().isSound(), true);
+        Check.same("with one AWAKE", begun().isSound(), true);
     }
 
     /** SLEEPER 0 and the BABY 1 stand at GATE 0, 2 is AT REST, 3 is AWAKE; GATE 1 is at LAND 0 too. */
