@@ -57,6 +57,7 @@ final class AskedEdges {
             + " SLEEPER by SLEEPER ofSleeper() of 0 to 8; PART by PART ofPart() of 3 to 5;"
             + " LAND by LAND ARRIVAL from the LAND 0; the sum of ODDS of the BEST PLAN for a PROMISE of 20",
             AskedEdges::digestAlongARun);
+        Edges.of(28, "for a PROMISE of 20", AskedEdges::digestOfPlansNear20);
         Edges.of(28, "Returns d.", AskedEdges::digestAlongARun);
     }
 
@@ -412,6 +413,15 @@ final class AskedEdges {
         }
         Check.same("it is far above 64 bits", d.bitLength() > 64, true);
         Check.same("what 64 bits leave of it", new Lullabygate().digest(), d.longValue());
+    }
+
+    /** HIDDEN WORTH of 19, 20 and 21 is where a PROMISE of 19, 20 or 21 makes a difference. */
+    private static void digestOfPlansNear20() {
+        for (int worth = 19; worth <= 21; worth++) {
+            Lullabygate x = Scene.hiders(worth);
+            Check.same("the sum for 20 of " + worth, x.plan(20, -1), worth < 20 ? -1 : 10);
+            Check.same("the digest with " + worth, x.digest(), DigestTest.due(x));
+        }
     }
 
     private static void digestAlongARun() {

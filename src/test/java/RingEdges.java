@@ -110,6 +110,10 @@ final class RingEdges {
         Scene.cross(x, 2, 0, 4);
         Check.same("DREAM 0 HIDDEN, DREAM 7 DECLARED", x.ofSleeper(2, 7), 5);
         Check.same("DREAM 7 is not LINKED", x.ofSleeper(1, 7), 2);
+        Scene.cross(x, 2, 0, 0);
+        for (int k = 0; k < 3; k++) {
+            Check.same("both HIDDEN link all, as " + k + " is asked", x.ofSleeper(k, 7), 7);
+        }
         Lullabygate one = dreamers(new int[] {4}, new int[] {});
         Scene.cross(one, 0, 0, 0);
         one.sleeper(1, false, 9);
