@@ -123,6 +123,16 @@ final class AppealEdges {
         }
         x.part(0, 0, 0, 0);
         Check.badState(x, "FATE 0", () -> x.appeal(5));
+        Lullabygate y = Scene.openGate();
+        y.trade(0, 2, 5);
+        y.sleeper(0, false, 9);
+        y.part(0, 0, 10, 5);
+        Scene.cross(y, 0, 0, 0);
+        Check.same("SLIPPED first", y.ofPart(0, 3), 4);
+        Scene.cross(y, 0, 0, 1);
+        Scene.cross(y, 0, 0, 0);
+        Check.same("then in a STORE, where who brought it is", y.ofPart(0, 4), 1);
+        Check.badState(y, "TURNED BACK, not CAUGHT", () -> y.appeal(0));
     }
 
     private static void inNoStore() {
