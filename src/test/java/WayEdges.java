@@ -96,6 +96,10 @@ final class WayEdges {
         x.gate(0, 1, 0, 24);
         Check.same("no GATE there at all", x.way(0, 2), -1);
         Check.same("no GATE here at all", x.way(2, 0), -1);
+        x.gate(2, 3, 0, 1);
+        Scene.toNight(x, 99);
+        x.pass(23);
+        Check.same("no other bound than 72 HOURS, on the last NIGHT too", x.way(2, 3), 2);
     }
 
     private static void hiddenWorthFrom0On() {
