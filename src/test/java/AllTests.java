@@ -15,6 +15,7 @@ public final class AllTests {
         RingsAndWaysTest.run();
         PlansTest.run();
         DigestTest.run();
+        ReadmeTest.run();
         Edges.run();
         RandomRunsTest.run();
         System.out.println(Check.passed + " passed, " + Check.failed + " failed");
